@@ -1135,11 +1135,6 @@ public final class PlateDay {
             return sum;
         }
 
-        /** The first MINUTE of a MONTH; NONE: it has none. */
-        int firstMinute(int month) {
-            return runStart(month, 0);
-        }
-
         private int bitAt(int month, int minute) {
             return minute < 0 ? 0 : minuteRow(month, minute / WIDE) >> minute % WIDE & 1;
         }
@@ -1228,11 +1223,11 @@ public final class PlateDay {
         }
 
         int upperX() {
-            return x * 10 * span + high * east;
+            return x * lower() + high * east;
         }
 
         int upperY() {
-            return y * 10 * span + high * north;
+            return y * lower() + high * north;
         }
 
         /** The MINUTES of a row of a MONTH that a SIGN "shadow" LETS. */
