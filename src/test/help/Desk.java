@@ -1,7 +1,23 @@
-/** A PlateDay and what its answers should be; counts those that aren't. */
+import java.util.ArrayList;
+import java.util.List;
+
+/**
+ * A PlateDay and what its answers should be; counts those that aren't. An object is promised for 512 calls only, so the calls are counted, too;
+ * ready() goes on with a new object that was told the same texts.
+ */
 final class Desk {
+    private static final int MOST_CALLS = 512;
+
+    private record Told(int picture, String text) {
+    }
+
+    private static final int TOWN = -2;
+    private static final int NEW_PICTURE = -1;
+
     private final String test;
+    private final List<Told> texts = new ArrayList<>();
     private PlateDay day = new PlateDay();
+    private int calls;
     private int asked;
     private int wrong;
 
@@ -12,6 +28,8 @@ final class Desk {
     /** Goes on with a new object. */
     PlateDay fresh() {
         day = new PlateDay();
+        calls = 0;
+        texts.clear();
         return day;
     }
 
@@ -22,8 +40,37 @@ final class Desk {
         return day;
     }
 
+    PlateDay now() {
+        return day;
+    }
+
+    /** An object that takes so many calls more: the one in use, or a new one that was told the same texts. */
+    PlateDay ready(int more) {
+        if (calls + more <= MOST_CALLS) {
+            return day;
+        }
+        day = new PlateDay();
+        calls = 0;
+        for (Told one : texts) {
+            feed(one.text);
+            int n = one.text.length();
+            calls++;
+            int answer = one.picture == TOWN ? day.town(n) : one.picture == NEW_PICTURE ? day.picture(n) : day.more(one.picture, n);
+            if (answer < 0) {
+                wrong++;
+                System.out.println(test + ": told again, not taken: " + one.text);
+            }
+        }
+        return day;
+    }
+
     void due(String what, long got, long want) {
         asked++;
+        calls++;
+        if (calls > MOST_CALLS) {
+            wrong++;
+            System.out.println(test + ": " + what + ": call " + calls + " of one object");
+        }
         if (got != want) {
             wrong++;
             System.out.println(test + ": " + what + ": answered " + got + ", due is " + want);
@@ -41,17 +88,26 @@ final class Desk {
             for (int j = 0; j < 20; j++) {
                 v[j / 4] = v[j / 4] << 8 | (i + j < text.length() ? text.charAt(i + j) : '#');
             }
+            calls++;
             day.feed(v[0], v[1], v[2], v[3], v[4]);
         }
     }
 
+    private int callsFor(String text) {
+        return text.length() / 20 + 4;
+    }
+
     void town(String text, int statements) {
+        ready(callsFor(text));
         feed(text);
         due("town " + text, day.town(text.length()), statements);
         due("its fault", day.fault(), -1);
+        texts.clear();
+        texts.add(new Told(TOWN, text));
     }
 
     void badTown(String text, int place) {
+        ready(callsFor(text));
         feed(text);
         due("bad town " + text, day.town(text.length()), -1);
         due("fault of town " + text, day.fault(), place);
@@ -59,12 +115,15 @@ final class Desk {
     }
 
     void picture(String text, int number) {
+        ready(callsFor(text));
         feed(text);
         due("picture " + text, day.picture(text.length()), number);
         due("its fault", day.fault(), -1);
+        texts.add(new Told(NEW_PICTURE, text));
     }
 
     void badPicture(String text, int place) {
+        ready(callsFor(text));
         feed(text);
         due("bad picture " + text, day.picture(text.length()), -1);
         due("fault of picture " + text, day.fault(), place);
@@ -72,12 +131,15 @@ final class Desk {
     }
 
     void more(int picture, String text, int signs) {
+        ready(callsFor(text));
         feed(text);
         due("more " + text, day.more(picture, text.length()), signs);
         due("its fault", day.fault(), -1);
+        texts.add(new Told(picture, text));
     }
 
     void badMore(int picture, String text, int place) {
+        ready(callsFor(text));
         feed(text);
         due("bad more " + text, day.more(picture, text.length()), -1);
         due("fault of more " + text, day.fault(), place);

@@ -13,11 +13,13 @@ public final class MomentTest {
         wrongMoments();
         allAndDays();
         twoRunsADay();
+        runsAtRows();
         judged();
         desk.close();
     }
 
     private static void lets(int k, int day, int minute, int due) {
+        x = desk.ready(1);
         desk.due("lets " + k + " " + day + " " + minute, x.lets(0, k, day, minute), due);
     }
 
@@ -263,6 +265,42 @@ public final class MomentTest {
         desk.more(0, "clock c 719;", 4);
         desk.due("clocks that can't be one", x.all(0), 0);
         desk.due("no days without a minute", x.days(0, -1), 0);
+    }
+
+    /** Runs that begin, end or go on at a minute that is divisible by 30, where the rows of bits meet. */
+    private static void runsAtRows() {
+        x = desk.fresh("clock c slow 5 fast 1;");
+        int[][] spans = {{30, 29, 35}, {31, 30, 36}, {24, 23, 29}, {59, 58, 64}, {0, 0, 5}, {719, 718, 719}, {690, 689, 695}};
+        for (int i = 0; i < spans.length; i++) {
+            desk.picture("clock c " + spans[i][0] + ";year 0;", i);
+            desk.due("runs " + i, x.runs(i, -1, 0), 360);
+            desk.due("first minute " + i, x.runs(i, 359, 1), spans[i][1]);
+            desk.due("last minute " + i, x.runs(i, 359, 2), spans[i][2]);
+            desk.due("all " + i, x.all(i), 360 * (spans[i][2] - spans[i][1] + 1));
+        }
+        for (int minute = 0; minute < 720; minute++) {
+            x = desk.fresh("clock e slow 99 fast 99;");
+            desk.picture("clock e " + minute + ";", 0);
+            int first = Math.max(0, minute - 99);
+            int last = Math.min(719, minute + 99);
+            desk.due("one run a day, " + minute, x.runs(0, -1, 0), 3600);
+            desk.due("from " + minute, x.runs(0, 3599, 1), first);
+            desk.due("to " + minute, x.runs(0, 3599, 2), last);
+        }
+        // The shadow stands in the way at minutes 28 and 29, 29 alone, and 30 alone.
+        String[] suns = {"sun 0 27 east 0 north 0;sun 0 28 east 9 north 0;sun 0 29 east 9 north 0;sun 0 30 east 0 north 0;sun 0 719 east 0 north 0;",
+            "sun 0 28 east 0 north 0;sun 0 29 east 9 north 0;sun 0 30 east 0 north 0;sun 0 719 east 0 north 0;",
+            "sun 0 29 east 0 north 0;sun 0 30 east 9 north 0;sun 0 31 east 0 north 0;sun 0 719 east 0 north 0;"};
+        int[][] due = {{27, 27, 30}, {28, 28, 30}, {29, 29, 31}};
+        for (int i = 0; i < suns.length; i++) {
+            x = desk.fresh("post p 10 10 10;" + suns[i]);
+            desk.picture("shadow p 10 10;year 0;", 0);
+            desk.due("two runs a day in one month", x.runs(0, -1, 0), 60 + 330);
+            desk.due("first run's first", x.runs(0, 0, 1), due[i][0]);
+            desk.due("first run's last", x.runs(0, 0, 2), due[i][1]);
+            desk.due("second run's first", x.runs(0, 1, 1), due[i][2]);
+            desk.due("second run's last", x.runs(0, 1, 2), 719);
+        }
     }
 
     private static void judged() {

@@ -34,6 +34,13 @@ public final class SetTest {
             desk.picture(pictures[i], i);
             due(i, due[i][0], due[i][1], due[i][2]);
         }
+        x = desk.fresh("thing m from 100 till 200 give 5;thing n from 206;thing o from 0;");
+        desk.picture("stands m;stands n;", 0);
+        due(0, 3, 1, 2);
+        desk.picture("lacks o;", 1);
+        due(1, 1, 1, 1);
+        desk.picture("lacks o;lacks o;", 2);
+        due(2, 1, 3, 1);
         x = desk.fresh("thing m from 100 till 200;");
         // 100 to 200 are in year 0: two signs are left at most, "stands" and "year 0" or the two "year 1".
         desk.picture("stands m;year 0;year 1;year 1;year 2;", 0);
@@ -138,6 +145,14 @@ public final class SetTest {
         desk.due("the last", x.stood(0, false, 319), 319);
         desk.due("above the line", x.stood(0, true, -1), 21 * 32);
         desk.due("the first", x.stood(0, true, 0), 352);
+        x = desk.fresh("post a 10 10 1;post b 11 11 1;");
+        desk.picture("left a b;", 0);
+        // y - x
+        desk.due("right beside the line", x.stood(0, false, -1), 496);
+        desk.due("turned over", x.stood(0, true, -1), 496);
+        desk.due("the first of these", x.stood(0, true, 0), 32);
+        x = desk.fresh("post a 10 10 1;post b 14 10 1;post c 0 0 1;post d 31 31 1;");
+        desk.picture("left a b;", 0);
         desk.picture("left b a;", 1);
         desk.due("the other way round", x.stood(1, false, -1), 21 * 32);
         desk.due("turned over", x.stood(1, true, -1), 320);
@@ -160,6 +175,7 @@ public final class SetTest {
         desk.picture("lacks p;year 0;", 5);
         desk.picture("stands m;lacks m;", 6);
         for (int n = 0; n < 100; n++) {
+            x = desk.ready(7);
             desk.due("stands " + n, x.late(0, n), 720 * (116 + n));
             desk.due("lacks " + n, x.late(1, n), 720 * (3600 - 86 - n));
             desk.due("no till " + n, x.late(2, n), 720 * 3300);

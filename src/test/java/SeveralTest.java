@@ -9,6 +9,7 @@ public final class SeveralTest {
         noCouples();
         weights();
         likeliest();
+        likeliestFew();
         likeliestMinutes();
         looks();
         looksAtTheEdges();
@@ -147,6 +148,17 @@ public final class SeveralTest {
         likely(1, -1, -1, -1);
         desk.due("no such picture", x.likely(3, 0), -1);
         desk.due("no such picture", x.likely(-1, 1), -1);
+    }
+
+    private static void likeliestFew() {
+        x = desk.fresh("clock d slow 0 fast 0;thing n from 3599;");
+        desk.picture("clock d 5;week 1;", 0);
+        desk.picture("clock d 5;stands n;", 1);
+        likely(0, 1, 1, 515);
+        likely(1, 3599, 1, 1);
+        // Days 1 and 8, 15, 22, 29 of each year's month 0 and its like weigh nothing: 36 is the first of month 1.
+        x.weight(0, 0);
+        desk.due("the first that weighs", x.likely(0, 0), 36);
     }
 
     private static void likeliestMinutes() {

@@ -1,12 +1,15 @@
 /** Promises 1 to 8: the tape, texts and their faults, and what was told. */
 public final class TextTest {
     private static final Desk desk = new Desk("TextTest");
+    private static final String TOWN = "thing m from 1;post p 1 1 1;post q 2 2 2;clock c slow 0 fast 0;tree e leaf 1 bare 2;";
 
     public static void main(String[] args) {
         newObject();
         tape();
         townTexts();
         townFaults();
+        endedTooSoon();
+        otherWords();
         limits();
         sixtyFirst();
         pictureTexts();
@@ -139,6 +142,76 @@ public final class TextTest {
         }
     }
 
+    /** Texts with a semicolon, or their end, where one more token must come, or one that is no such token. */
+    private static void endedTooSoon() {
+        desk.fresh(TOWN);
+        String[] statements = {"thing a from 5", "thing a from 5 give 5", "thing a from 5 till 6", "thing a from 5 till 6 give 7",
+            "tree a leaf 1 bare 2", "post a 1 2 3", "clock a slow 1 fast 2", "sun 1 2 east 98 north 98", "sun 1 2 west 98 south 98"};
+        for (String statement : statements) {
+            for (int blank = statement.lastIndexOf(' '); blank > 0; blank = statement.lastIndexOf(' ', blank - 1)) {
+                String start = statement.substring(0, blank);
+                if (!start.endsWith("5") && !start.endsWith("6")) {
+                    desk.badTown(start, blank);
+                    desk.badTown(start + " ;", blank + 1);
+                    desk.badTown(start + " \t;", blank + 1);
+                }
+            }
+        }
+        desk.due("no town of these", desk.now().count(0), 1);
+        String[] signs = {"stands m", "lacks m", "leaf e", "bare e", "shadow p 31 31", "shadow p 31 31 give 9", "clock c 5", "week 5", "year 5",
+            "before p q", "left p q"};
+        for (String sign : signs) {
+            for (int blank = sign.lastIndexOf(' '); blank > 0; blank = sign.lastIndexOf(' ', blank - 1)) {
+                String start = sign.substring(0, blank);
+                if (!start.endsWith("31 31")) {
+                    desk.badPicture(start, blank);
+                    desk.badPicture(start + " ;", blank + 1);
+                    desk.badPicture(start + " \t;", blank + 1);
+                }
+            }
+        }
+        desk.due("no picture of these", desk.now().count(1), 0);
+        for (String sign : signs) {
+            desk.fresh(TOWN);
+            desk.picture(sign + ";", 0);
+        }
+        for (String statement : statements) {
+            desk.fresh();
+            desk.town(statement + ";", 1);
+        }
+    }
+
+    /** Words that are those of the texts but for one letter. */
+    private static void otherWords() {
+        desk.fresh(TOWN);
+        String[] statements = {"thing a from 5 give 5 till 6", "tree a leaf 1 bare 2", "clock a slow 1 fast 2", "sun 1 2 east 3 north 4",
+            "sun 1 2 west 3 south 4", "post a 1 2 3"};
+        for (String statement : statements) {
+            misspell(statement, true);
+        }
+        String[] signs = {"stands m", "lacks m", "leaf e", "bare e", "shadow p 1 2 give 3", "clock c 5", "week 5", "year 5", "before p q", "left p q"};
+        for (String sign : signs) {
+            misspell(sign, false);
+        }
+        desk.due("no town of these", desk.now().count(0), 1);
+    }
+
+    private static void misspell(String text, boolean isTown) {
+        int at = 0;
+        for (String word : text.split(" ")) {
+            for (int i = 0; i < word.length() && word.length() > 2; i++) {
+                int place = at;
+                String other = text.substring(0, at + i) + 'z' + text.substring(at + i + 1) + ";";
+                if (isTown) {
+                    desk.badTown(other, place);
+                } else {
+                    desk.badPicture(other, place);
+                }
+            }
+            at += word.length() + 1;
+        }
+    }
+
     private static String many(String text, int n) {
         StringBuilder all = new StringBuilder();
         for (int i = 0; i < n; i++) {
@@ -175,8 +248,6 @@ public final class TextTest {
         desk.badTown(sixty + "sun 1", sixty.length());
     }
 
-    private static final String TOWN = "thing m from 1;post p 1 1 1;post q 2 2 2;clock c slow 0 fast 0;tree e leaf 1 bare 2;";
-
     private static void pictureTexts() {
         PlateDay x = desk.fresh(TOWN);
         for (int i = 0; i < 7; i++) {
@@ -200,7 +271,7 @@ public final class TextTest {
     }
 
     private static void pictureFaults() {
-        PlateDay x = desk.fresh(TOWN);
+        desk.fresh(TOWN);
         String[] texts = {
             "", "  \n", ";", "week", "week 7", "week 1", "week 1 2", "week 1;;", "year 10;", "year m", "stands", "stands p;", "stands 1",
             "stands stands;", "lacks e;", "leaf m;", "bare c;", "shadow m", "shadow p 32", "shadow p 1 32", "shadow p 1 1 give 100",
@@ -214,7 +285,7 @@ public final class TextTest {
         for (int i = 0; i < texts.length; i++) {
             desk.badPicture(texts[i], places[i]);
         }
-        desk.due("none of these is one", x.count(1), 0);
+        desk.due("none of these is one", desk.now().count(1), 0);
         desk.picture(many("week 1;", 12), 0);
         desk.badPicture(many("week 1;", 12) + "week 2;", 84);
         desk.badPicture(many("week 1;", 12) + " ;", 85);

@@ -34,7 +34,7 @@ public final class WildTest {
         int made = 0;
         String call = "";
         try {
-            while (made < 512) {
+            while (made < 440) {
                 int what = chance.below(40);
                 int n = 1;
                 if (what < 3) {
