@@ -234,6 +234,7 @@ public final class TextTest {
         desk.town(suns, 40);
         desk.badTown(suns + "sun 1 1 east 0 north 0;", suns.length() + 4);
         desk.badTown(suns + "sun", suns.length() + 3);
+        desk.badTown(suns + "sun;", suns.length() + 3);
         desk.badTown(many("thing x# from 1;", 12) + "thing", 12 * 16 + 5);
     }
 
@@ -285,6 +286,10 @@ public final class TextTest {
         for (int i = 0; i < texts.length; i++) {
             desk.badPicture(texts[i], places[i]);
         }
+        desk.badPicture("shadow 5;", 7);
+        desk.badPicture("shadow 5 6;", 7);
+        desk.badPicture("clock 5;", 6);
+        desk.badPicture("before 5 p;", 7);
         desk.due("none of these is one", desk.now().count(1), 0);
         desk.picture(many("week 1;", 12), 0);
         desk.badPicture(many("week 1;", 12) + "week 2;", 84);
