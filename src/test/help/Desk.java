@@ -20,6 +20,9 @@ final class Desk {
     private int calls;
     private int asked;
     private int wrong;
+    private int sentences;
+    private String sentence = "";
+    private List<String> kept = List.of();
 
     Desk(String test) {
         this.test = test;
@@ -46,9 +49,19 @@ final class Desk {
 
     /** An object that takes so many calls more: the one in use, or a new one that was told the same texts. */
     PlateDay ready(int more) {
-        if (calls + more <= MOST_CALLS) {
-            return day;
+        if (calls + more > MOST_CALLS) {
+            again();
         }
+        return day;
+    }
+
+    /** Goes on with a new object that was told the same TOWN, and no PICTURES. */
+    void anew() {
+        texts.removeIf(one -> one.picture != TOWN);
+        again();
+    }
+
+    private void again() {
         day = new PlateDay();
         calls = 0;
         for (Told one : texts) {
@@ -57,23 +70,54 @@ final class Desk {
             calls++;
             int answer = one.picture == TOWN ? day.town(n) : one.picture == NEW_PICTURE ? day.picture(n) : day.more(one.picture, n);
             if (answer < 0) {
-                wrong++;
-                System.out.println(test + ": told again, not taken: " + one.text);
+                tell("told again, not taken: " + one.text);
             }
         }
-        return day;
+    }
+
+    /** The sentence of the document that the answers from here on are about. */
+    void says(String one) {
+        sentence = one;
+        sentences++;
+    }
+
+    private void tell(String what) {
+        wrong++;
+        System.out.println(test + ": " + what + (sentence.isEmpty() ? "" : "\n    The document: " + sentence));
     }
 
     void due(String what, long got, long want) {
         asked++;
         calls++;
         if (calls > MOST_CALLS) {
-            wrong++;
-            System.out.println(test + ": " + what + ": call " + calls + " of one object");
+            tell(what + ": call " + calls + " of one object");
         }
         if (got != want) {
-            wrong++;
-            System.out.println(test + ": " + what + ": answered " + got + ", due is " + want);
+            tell(what + ": answered " + got + ", due is " + want);
+        }
+    }
+
+    /** Notes what the object answers now. */
+    void keep() {
+        kept = State.of(day);
+        calls += kept.size();
+    }
+
+    /** What the object answers now must be what was noted. */
+    void same(String what) {
+        List<String> now = State.of(day);
+        calls += now.size();
+        asked++;
+        if (calls > MOST_CALLS) {
+            tell(what + ": call " + calls + " of one object");
+        }
+        for (int i = 0; i < Math.max(now.size(), kept.size()); i++) {
+            String was = i < kept.size() ? kept.get(i) : "nothing";
+            String is = i < now.size() ? now.get(i) : "nothing";
+            if (!was.equals(is)) {
+                tell(what + ": was " + was + ", is " + is);
+                return;
+            }
         }
     }
 
@@ -147,7 +191,8 @@ final class Desk {
 
     /** Tells how it went, and ends the program with 1 if something was wrong. */
     void close() {
-        System.out.println(test + ": " + asked + " answers, " + wrong + " not as due");
+        String about = sentences == 0 ? "" : sentences + " sentences, ";
+        System.out.println(test + ": " + about + asked + " answers, " + wrong + " not as due");
         if (wrong > 0) {
             System.exit(1);
         }

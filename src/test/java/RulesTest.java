@@ -107,31 +107,36 @@ public final class RulesTest {
             must("import " + imports.group(1), Set.of("java.util.Arrays", "java.util.List", "java.util.ArrayList").contains(imports.group(1)));
         }
         must("signs 1 to 127", text.chars().allMatch(sign -> sign > 0 && sign < 128));
-        String[] lines = text.split("\n");
-        for (int i = 0; i < lines.length; i++) {
-            if (lines[i].matches("( {4}| {8})[\\w].*\\) \\{")) {
-                String indent = lines[i].replaceAll("\\S.*", "");
-                int end = i;
-                while (!lines[end].equals(indent + "}")) {
-                    end++;
-                }
-                must("sixty lines: " + lines[i], end - i <= 60);
+        methodLengths(code.replaceAll("'(\\\\.|[^'\\\\])'|\"(\\\\.|[^\"\\\\])*\"", "0"));
+    }
+
+    /** A method begins with a head that ends in ") {" right inside a class, and ends where its braces are closed. */
+    private static void methodLengths(String code) {
+        Matcher heads = Pattern.compile("\\)\\s*\\{").matcher(code);
+        int end = 0;
+        while (heads.find()) {
+            if (heads.start() < end) {
+                continue;
             }
+            end = heads.end();
+            for (int open = 1; open > 0 && end < code.length(); end++) {
+                open += code.charAt(end) == '{' ? 1 : code.charAt(end) == '}' ? -1 : 0;
+            }
+            long lines = code.substring(heads.start(), end).chars().filter(sign -> sign == '\n').count();
+            String before = code.substring(0, heads.start());
+            must("sixty lines: " + before.substring(before.lastIndexOf('\n') + 1), lines <= 60);
         }
     }
 
-    /** What is made is made by the constructor, and little of it. */
+    /** All calls of one run live in one room; 4 bytes an element are the least that the room can be. */
     private static void room() {
         com.sun.management.ThreadMXBean threads = (com.sun.management.ThreadMXBean) ManagementFactory.getThreadMXBean();
+        calls(new PlateDay());
         long before = threads.getCurrentThreadAllocatedBytes();
         PlateDay x = new PlateDay();
-        long made = threads.getCurrentThreadAllocatedBytes() - before;
-        must("an object takes " + made + " bytes", made < 400_000);
         long sum = calls(x);
-        before = threads.getCurrentThreadAllocatedBytes();
-        sum += calls(x);
-        made = threads.getCurrentThreadAllocatedBytes() - before;
-        must("calls make objects: " + made + " bytes for " + sum, made < 2_000);
+        long made = threads.getCurrentThreadAllocatedBytes() - before;
+        must("an object and some thirty calls take " + made + " bytes; " + sum, made < 4L * 7_300_000 / 16);
     }
 
     private static long calls(PlateDay x) {
