@@ -31,6 +31,7 @@ public final class EdgeMomentTest {
         daysNone();
         runsOfDays();
         runsOfMinutes();
+        runsOfMonths();
         runsEnds();
         runsNone();
         judgeFirst();
@@ -645,6 +646,33 @@ public final class EdgeMomentTest {
         run(0, 240, 120, 0, 719);
         run(0, 479, 359, 0, 719);
         run(0, 480, -1, -1, -1);
+    }
+
+    private static void runsOfMonths() {
+        desk.says("Terms, 2: RUNS: .. by DAYS (each MONTH's DAYS with its own MINUTES, in each YEAR)");
+        // MONTH 0 has MINUTE 0, MONTH 1 MINUTE 1 and so on, MONTH 11 has 11 and 13.
+        StringBuilder town = new StringBuilder("post p 10 10 10;");
+        for (int month = 0; month < 12; month++) {
+            town.append("sun ").append(month).append(' ').append(month).append(" east 0 north 0;");
+        }
+        PlateDay x = desk.fresh(town + "sun 11 12 east 1 north 0;sun 11 13 east 0 north 0;");
+        desk.picture("shadow p 10 10;", 0);
+        desk.due("runs", x.runs(0, -1, 0), 13 * 300);
+        desk.due("all", x.all(0), 13 * 300);
+        for (int year : new int[] {0, 1, 9}) {
+            for (int month = 0; month < 11; month++) {
+                run(0, 390 * year + 30 * month, 360 * year + 30 * month, month, month);
+                run(0, 390 * year + 30 * month + 29, 360 * year + 30 * month + 29, month, month);
+            }
+            run(0, 390 * year + 330, 360 * year + 330, 11, 11);
+            run(0, 390 * year + 331, 360 * year + 330, 13, 13);
+            run(0, 390 * year + 388, 360 * year + 359, 11, 11);
+            run(0, 390 * year + 389, 360 * year + 359, 13, 13);
+        }
+        run(0, 3900, -1, -1, -1);
+        desk.picture("shadow p 10 10;year 9;", 1);
+        run(1, 389, 3599, 13, 13);
+        run(1, 390, -1, -1, -1);
     }
 
     private static void runsEnds() {

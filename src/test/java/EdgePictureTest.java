@@ -378,6 +378,11 @@ public final class EdgePictureTest {
                 desk.badPicture("year 1;" + start, blank + 7);
                 desk.badMore(0, start, blank);
                 desk.badMore(0, start + "\n", blank + 1);
+                // A ";" is no more of it.
+                if (!start.equals(sign) && !start.equals("shadow p 1 1")) {
+                    desk.badPicture(start + " ;", blank + 1);
+                    desk.badMore(0, start + ";", blank);
+                }
             }
             desk.due("one sign", desk.now().count(4), 1);
             desk.more(0, whole, 2);

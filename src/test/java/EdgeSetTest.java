@@ -8,6 +8,7 @@ public final class EdgeSetTest {
         smallestQuarrel();
         leastBits();
         allTwelve();
+        onePictureAfterTheOther();
         quarrelNone();
         doubtNothing();
         doubtFewest();
@@ -130,6 +131,21 @@ public final class EdgeSetTest {
         }
     }
 
+    private static void onePictureAfterTheOther() {
+        desk.says("Terms, 2: QUARREL, DOUBT, RIVALS (of the PICTURE that is asked for, whichever was ahead of it)");
+        PlateDay x = desk.fresh(CLOCKS);
+        String[] pictures = {"year 1;week 1;clock c 1;", "year 1;year 2;clock c 1;", "lacks n;week 1;", "clock c 1;year 1;clock c 2;", "year 5;"};
+        int[][] due = {{0, 0, 1}, {3, 1, 2}, {1, 1, 1}, {5, 1, 2}, {0, 0, 1}};
+        for (int i = 0; i < 5; i++) {
+            desk.picture(pictures[i], i);
+        }
+        for (int i : new int[] {0, 1, 0, 2, 0, 3, 1, 3, 2, 4, 3, 4, 0, 4}) {
+            desk.due("rivals of " + pictures[i], x.doubt(i, 1), due[i][2]);
+            desk.due("quarrel of " + pictures[i], x.quarrel(i), due[i][0]);
+            desk.due("doubt of " + pictures[i], x.doubt(i, 0), due[i][1]);
+        }
+    }
+
     private static void doubtNothing() {
         desk.says("Terms, 2: DOUBT: the fewest SIGNS without which some MOMENT is left (none, if there is one)");
         desk.fresh(CLOCKS);
@@ -179,7 +195,7 @@ public final class EdgeSetTest {
             all.append("stands x").append((char) ('a' + n - 1)).append(';');
             due(all.toString(), n == 1 ? 0 : 3, (1 << n - 1) - 1, n);
         }
-        // Two of one year and two of another, and all four of the clock: just two sets of two.
+        // Two of one year and two of another: just two sets of two.
         due("year 1;year 1;year 2;year 2;", 5, 3, 2);
         due("year 1;year 1;year 2;year 2;year 2;", 5, 3, 1);
         due("year 1;year 1;year 2;year 2;week 3;week 4;", 5, 1 + 2 + 16, 4);
@@ -314,6 +330,17 @@ public final class EdgeSetTest {
                 desk.due("no more", x.stood(0, side == 1, n), -1);
             }
         }
+        // By 1 and by -1: y less x, for posts beside each other.
+        desk.fresh("post a 10 10 1;post b 11 11 1;post c 20 20 1;");
+        desk.picture("left a b;", 0);
+        PlateDay near = desk.now();
+        desk.due("y is less", near.stood(0, false, -1), 496);
+        desk.due("the first", near.stood(0, false, 0), 1);
+        desk.due("the last", near.stood(0, false, 495), 30 * 32 + 31);
+        desk.due("y is more", near.stood(0, true, -1), 496);
+        desk.due("the first", near.stood(0, true, 0), 32);
+        desk.due("the last", near.stood(0, true, 495), 31 * 32 + 30);
+        desk.fresh("post a 0 1 1;post b 31 1 1;post c 1 0 1;post d 1 31 1;");
         // Just one point from which the posts are a corner: two lines, each with 0 on it.
         points("left a b;left d c;", false, 0);
         points("left b a;left c d;", true, 0);

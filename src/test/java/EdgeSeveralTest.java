@@ -14,6 +14,7 @@ public final class EdgeSeveralTest {
         weightsNotTold();
         likeliestFirst();
         likeliestShare();
+        likeliestByMonths();
         nothingWeighs();
         likelyNone();
         lookDays();
@@ -265,6 +266,25 @@ public final class EdgeSeveralTest {
         likely(3, 30, 11, 39500);
     }
 
+    private static void likeliestByMonths() {
+        desk.says("Terms, 2: LIKELIEST: the DAY with the most MINUTES of ALL times its MONTH's weight (each MONTH's DAYS with its own MINUTES)");
+        // MONTH 0 has a MINUTE a DAY, MONTH 1 two and so on, MONTH 11 has twelve.
+        StringBuilder town = new StringBuilder("post p 10 10 10;thing a from 360;");
+        for (int month = 0; month < 12; month++) {
+            town.append("sun ").append(month).append(" 100 east 0 north 0;");
+            town.append(month == 0 ? "" : "sun " + month + " " + (100 + month) + " east 0 north 0;");
+        }
+        x = desk.fresh(town.toString());
+        desk.picture("shadow p 10 10;stands a;", 0);
+        likelyOf(0, 360 + 330, 12, 9 * 30 * 78);
+        desk.due("weight", x.weight(11, 11), true);
+        desk.due("weight", x.weight(5, 22), true);
+        // 132 both: the first of them.
+        likelyOf(0, 360 + 150, 132, 9 * 30 * (78 - 12 - 6 + 264));
+        desk.due("weight", x.weight(11, 12), true);
+        likelyOf(0, 360 + 330, 144, 9 * 30 * (78 - 12 - 6 + 132 + 144));
+    }
+
     private static void nothingWeighs() {
         desk.says("Promise 21: NONE: nothing weighs");
         x = desk.fresh("thing g from 29 till 30;");
@@ -390,6 +410,19 @@ public final class EdgeSeveralTest {
         look(4, 0, 5L * 5 * 252, 5);
         // No MOMENTS are no NONE.
         look(5, 0, 0, 5);
+        // "till" less its GIVE is ahead of "from": it lacks on each DAY.
+        desk.fresh("thing m from 100 give 2 till 101 give 50;thing n from 100 give 2 till 101 give 2;thing o from 0 give 1 till 5 give 9;");
+        desk.picture("lacks m;", 0);
+        desk.picture("lacks n;", 1);
+        desk.picture("lacks o;year 0;", 2);
+        look(0, 0, 720L * 3600 * 4, 4);
+        // From 98: 98 and 99 are barred; from 99: 99; from 100 and 101: none.
+        look(1, 1, 720L * (3600 * 4 - 3), 4);
+        look(2, 2, 720L * 360 * 2, 2);
+        // Of a to 30 and weekday 3 there are 3, 10, 17 and 24.
+        desk.fresh("thing a from 0 till 30;thing m from 10 give 1;");
+        desk.picture("stands a;week 3;stands m;", 0);
+        look(0, 1, 720L * (3 + 3 + 2), 3);
     }
 
     private static void lookByMonths() {
@@ -492,6 +525,13 @@ public final class EdgeSeveralTest {
         next("stands d;stands e;", 4);
         look(0, 3, 720L * 15, 3);
         look(0, 4, 720L * (35 * 6 + 5 + 4 + 3 + 2 + 1), 51);
+        // 6 by 3 is less than 8 by 3, not just as whole numbers.
+        desk.fresh("thing b from 99 give 1;thing a from 100 give 1 till 101;clock c slow 0 fast 0;");
+        next("stands a;stands b;clock c 5;", 1);
+        look(0, 0, 8, 3);
+        look(0, 1, 6, 3);
+        desk.fresh("thing a from 100 give 1 till 200;thing b from 150 give 50 till 200;thing c from 1000 give 1;thing d from 1005 give 1 till 1009;"
+            + "thing e from 1000 give 30 till 1020;thing f from 2000 give 2;");
         // No MOMENTS at all are the least.
         next("stands a;stands c;", 0);
         look(0, 0, 0, 3);

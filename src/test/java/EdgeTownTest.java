@@ -127,7 +127,7 @@ public final class EdgeTownTest {
         desk.due("1,200 are no more", x.feed(0x74686967, 0x20202020, 0x20202020, 0x20202020, 0x2020203f), 1200);
         desk.keep();
         desk.due("1,220 are", x.feed(0x20202020, 0x20202020, 0x20202020, 0x20202020, 0x20202020), -1);
-        desk.due("again", x.feed(0, 0, 0, 0, 0), -1);
+        desk.due("again", x.feed(0x20202020, 0x20202020, 0x20202020, 0x20202020, 0x20202020), -1);
         desk.same("a refused feed");
         desk.due("1,201 are too many", x.town(1201), -2);
         desk.due("1,200 are there", x.town(1200), -1);
@@ -135,6 +135,10 @@ public final class EdgeTownTest {
         desk.due("there is room again", x.feed(0x20202020, 0x20202020, 0x20202020, 0x20202020, 0x2020203f), 20);
         desk.due("these alone", x.town(20), -1);
         desk.due("the last one's place", x.fault(), 19);
+        desk.fresh();
+        desk.feed("thing a from 1;thing b from 2;" + " ".repeat(1155) + "thing c from 3;");
+        desk.due("a refused one", desk.now().feed(0x3f3f3f3f, 0, 0, 0, 0x3f3f3f3f), -1);
+        desk.due("neither the first bytes nor the last ones are others", desk.now().town(1200), 3);
         String blanks = " ".repeat(1185);
         desk.town(blanks + "thing a from 1;", 1);
         desk.badTown(blanks + "thing a from 1 ", 1200);
@@ -539,6 +543,13 @@ public final class EdgeTownTest {
                 desk.badTown(start + "\n", blank + 1);
                 desk.badTown(start + "    ", blank + 4);
                 desk.badTown("sun 0 0 east 0 north 0;" + start, 23 + blank);
+                // A ";" is no more of it, but where it may end there.
+                boolean mayEnd = start.startsWith("thing a from ") && Character.isDigit(start.charAt(blank - 1)) || start.length() + 2 == statement.length();
+                if (mayEnd) {
+                    desk.town(start + " ;", 1);
+                } else {
+                    desk.badTown(start + " ;", blank + 1);
+                }
             }
             desk.town(statement, 1);
             desk.town("sun 0 0 east 0 north 0;" + statement, 2);
@@ -648,11 +659,12 @@ public final class EdgeTownTest {
             desk.badTown(all + other + next, place + other.length());
             desk.badTown(all + words[kind] + " ", all.length() + words[kind].length() + 1);
             desk.badTown(all + words[kind] + "  7", place + 1);
+            desk.badTown(all + words[kind] + ";", place - 1);
             desk.badTown(next + all, next.length() + all.lastIndexOf("x", all.length()));
             desk.town(all + other, most[kind] + 1);
         }
         String suns = many("sun 0 %east0north0;", 20) + many("sun 11 %east0north0;", 20);
-        for (String next : new String[] {"sun 1 1 east 0 north 0;", "sun 0 100 east 0 north 0;", "sun 12", "sun x"}) {
+        for (String next : new String[] {"sun 1 1 east 0 north 0;", "sun 0 100 east 0 north 0;", "sun 12", "sun x", "sun ;"}) {
             desk.badTown(suns + next, suns.length() + 4);
             desk.badTown(suns + " \n" + next, suns.length() + 6);
         }
