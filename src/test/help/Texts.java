@@ -15,6 +15,15 @@ final class Texts {
         this.chance = chance;
     }
 
+    /** A text so many times, with a, b, c for each # and 0, 1, 2 for each %. */
+    static String many(String text, int n) {
+        StringBuilder all = new StringBuilder();
+        for (int i = 0; i < n; i++) {
+            all.append(text.replace("#", "" + (char) ('a' + i)).replace("%", "" + i));
+        }
+        return all.toString();
+    }
+
     private String newName() {
         StringBuilder name = new StringBuilder();
         do {

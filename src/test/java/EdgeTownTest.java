@@ -44,14 +44,6 @@ public final class EdgeTownTest {
         desk.close();
     }
 
-    private static String many(String text, int n) {
-        StringBuilder all = new StringBuilder();
-        for (int i = 0; i < n; i++) {
-            all.append(text.replace("#", "" + (char) ('a' + i)).replace("%", "" + i));
-        }
-        return all.toString();
-    }
-
     private static void newObject() {
         desk.says("Promise 1: No TOWN (nothing told), no PICTURES; weights are 1.");
         PlateDay x = desk.fresh();
@@ -438,7 +430,7 @@ public final class EdgeTownTest {
                     ahead.length() + sun.length() + other.replace("#", "hall").length() + one.indexOf('#'));
             }
         }
-        String things = many("thing x# from 1;", 12);
+        String things = Texts.many("thing x# from 1;", 12);
         desk.badTown(things + "tree xl leaf 1 bare 2;", things.length() + 5);
         desk.town(things + "tree xm leaf 1 bare 2;", 13);
     }
@@ -626,7 +618,7 @@ public final class EdgeTownTest {
         int[] most = {12, 6, 10, 4, 40};
         for (int kind = 0; kind < 5; kind++) {
             for (int n : new int[] {most[kind] - 1, most[kind]}) {
-                desk.town(many(kinds[kind], n), n);
+                desk.town(Texts.many(kinds[kind], n), n);
                 for (int other = 0; other < 5; other++) {
                     desk.due("told " + other, desk.now().told(other), other == kind ? n : 0);
                 }
@@ -634,13 +626,13 @@ public final class EdgeTownTest {
             }
         }
         // Each kind has room of its own: as many as 60 STATEMENTS take of each.
-        String some = many("thing t# from 1;", 12) + many("tree e# leaf 1 bare 2;", 6) + many("post p# 1 1 1;", 10) + many("clock c# slow 1 fast 1;", 4);
-        desk.town(some + many("sun 0 %east0north0;", 28), 60);
+        String some = Texts.many("thing t# from 1;", 12) + Texts.many("tree e# leaf 1 bare 2;", 6) + Texts.many("post p# 1 1 1;", 10) + Texts.many("clock c# slow 1 fast 1;", 4);
+        desk.town(some + Texts.many("sun 0 %east0north0;", 28), 60);
         for (int kind = 0; kind < 5; kind++) {
             desk.due("told " + kind, desk.now().told(kind), new int[] {12, 6, 10, 4, 28}[kind]);
         }
         // Suns of several MONTHS are counted together.
-        desk.town(many("sun 0 %east0north0;", 20) + many("sun 11 %east0north0;", 20), 40);
+        desk.town(Texts.many("sun 0 %east0north0;", 20) + Texts.many("sun 11 %east0north0;", 20), 40);
     }
 
     private static void oneTooMany() {
@@ -651,7 +643,7 @@ public final class EdgeTownTest {
         int[] most = {12, 6, 10, 4};
         String other = "sun 0 5 east 1 north 1;";
         for (int kind = 0; kind < 4; kind++) {
-            String all = many(kinds[kind], most[kind]);
+            String all = Texts.many(kinds[kind], most[kind]);
             String next = kinds[kind].replace("#", "z");
             int place = all.length() + words[kind].length() + 1;
             desk.badTown(all + next, place);
@@ -663,7 +655,7 @@ public final class EdgeTownTest {
             desk.badTown(next + all, next.length() + all.lastIndexOf("x", all.length()));
             desk.town(all + other, most[kind] + 1);
         }
-        String suns = many("sun 0 %east0north0;", 20) + many("sun 11 %east0north0;", 20);
+        String suns = Texts.many("sun 0 %east0north0;", 20) + Texts.many("sun 11 %east0north0;", 20);
         for (String next : new String[] {"sun 1 1 east 0 north 0;", "sun 0 100 east 0 north 0;", "sun 12", "sun x", "sun ;"}) {
             desk.badTown(suns + next, suns.length() + 4);
             desk.badTown(suns + " \n" + next, suns.length() + 6);
@@ -676,7 +668,7 @@ public final class EdgeTownTest {
     private static void sixtyStatements() {
         desk.says("Terms: 60 STATEMENTS. FAULT: .. the 61st STATEMENT: where it begins.");
         desk.fresh();
-        String fiftyNine = many("thing x# from1;", 12) + many("post p# 1 1 1;", 10) + many("sun 0 %east0north0;", 37);
+        String fiftyNine = Texts.many("thing x# from1;", 12) + Texts.many("post p# 1 1 1;", 10) + Texts.many("sun 0 %east0north0;", 37);
         String sixty = fiftyNine + "sun 1 1east0north0;";
         desk.town(fiftyNine, 59);
         desk.town(sixty, 60);

@@ -212,35 +212,27 @@ public final class TextTest {
         }
     }
 
-    private static String many(String text, int n) {
-        StringBuilder all = new StringBuilder();
-        for (int i = 0; i < n; i++) {
-            all.append(text.replace("#", "" + (char) ('a' + i)).replace("%", "" + i));
-        }
-        return all.toString();
-    }
-
     private static void limits() {
         desk.fresh();
-        desk.town(many("thing x# from 1;", 12), 12);
-        desk.badTown(many("thing x# from 1;", 12) + "thing y from 1;", 12 * 16 + 6);
-        desk.town(many("tree t# leaf 1 bare 2;", 6), 6);
-        desk.badTown(many("tree t# leaf 1 bare 2;", 6) + "tree y leaf 1 bare 2;", 6 * 22 + 5);
-        desk.town(many("post p# 1 1 1;", 10), 10);
-        desk.badTown(many("post p# 1 1 1;", 10) + "post y 1 1 1;", 10 * 14 + 5);
-        desk.town(many("clock c# slow 1 fast 1;", 4), 4);
-        desk.badTown(many("clock c# slow 1 fast 1;", 4) + "clock y slow 1 fast 1;", 4 * 23 + 6);
-        String suns = many("sun 0 %east0north0;", 40);
+        desk.town(Texts.many("thing x# from 1;", 12), 12);
+        desk.badTown(Texts.many("thing x# from 1;", 12) + "thing y from 1;", 12 * 16 + 6);
+        desk.town(Texts.many("tree t# leaf 1 bare 2;", 6), 6);
+        desk.badTown(Texts.many("tree t# leaf 1 bare 2;", 6) + "tree y leaf 1 bare 2;", 6 * 22 + 5);
+        desk.town(Texts.many("post p# 1 1 1;", 10), 10);
+        desk.badTown(Texts.many("post p# 1 1 1;", 10) + "post y 1 1 1;", 10 * 14 + 5);
+        desk.town(Texts.many("clock c# slow 1 fast 1;", 4), 4);
+        desk.badTown(Texts.many("clock c# slow 1 fast 1;", 4) + "clock y slow 1 fast 1;", 4 * 23 + 6);
+        String suns = Texts.many("sun 0 %east0north0;", 40);
         desk.town(suns, 40);
         desk.badTown(suns + "sun 1 1 east 0 north 0;", suns.length() + 4);
         desk.badTown(suns + "sun", suns.length() + 3);
         desk.badTown(suns + "sun;", suns.length() + 3);
-        desk.badTown(many("thing x# from 1;", 12) + "thing", 12 * 16 + 5);
+        desk.badTown(Texts.many("thing x# from 1;", 12) + "thing", 12 * 16 + 5);
     }
 
     private static void sixtyFirst() {
         PlateDay x = desk.fresh();
-        String sixty = many("thing x# from1;", 12) + many("post p# 1 1 1;", 8) + many("sun 0 %east0north0;", 40);
+        String sixty = Texts.many("thing x# from1;", 12) + Texts.many("post p# 1 1 1;", 8) + Texts.many("sun 0 %east0north0;", 40);
         desk.town(sixty, 60);
         desk.due("statements", x.told(5), 60);
         desk.town(sixty + " \n", 60);
@@ -291,10 +283,10 @@ public final class TextTest {
         desk.badPicture("clock 5;", 6);
         desk.badPicture("before 5 p;", 7);
         desk.due("none of these is one", desk.now().count(1), 0);
-        desk.picture(many("week 1;", 12), 0);
-        desk.badPicture(many("week 1;", 12) + "week 2;", 84);
-        desk.badPicture(many("week 1;", 12) + " ;", 85);
-        desk.picture(many("week 1;", 12) + " \n", 1);
+        desk.picture(Texts.many("week 1;", 12), 0);
+        desk.badPicture(Texts.many("week 1;", 12) + "week 2;", 84);
+        desk.badPicture(Texts.many("week 1;", 12) + " ;", 85);
+        desk.picture(Texts.many("week 1;", 12) + " \n", 1);
     }
 
     private static void moreSigns() {
@@ -310,10 +302,10 @@ public final class TextTest {
         desk.badMore(0, "", 0);
         desk.badMore(0, " ", 1);
         desk.badMore(0, "year 1;year 10;", 12);
-        desk.badMore(0, many("year 2;", 10), 63);
+        desk.badMore(0, Texts.many("year 2;", 10), 63);
         desk.due("stays as it was", x.count(4), 5);
         desk.due("stays as it was", x.all(0), all);
-        desk.more(0, many("year 1;", 9), 12);
+        desk.more(0, Texts.many("year 1;", 9), 12);
         desk.badMore(0, "year 1;", 0);
         desk.badMore(0, "", 0);
         desk.feed("year 1;");
