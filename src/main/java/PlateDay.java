@@ -1624,8 +1624,8 @@ public final class PlateDay {
             lacks = false;
             for (int k = 0; k < picture.size(); k++) {
                 if (picture.names(k, thing)) {
-                    stands |= picture.tells(k, 0) == STANDS;
-                    lacks |= picture.tells(k, 0) == LACKS;
+                    stands = stands || picture.tells(k, 0) == STANDS;
+                    lacks = lacks || picture.tells(k, 0) == LACKS;
                 }
             }
             int sum = 0;

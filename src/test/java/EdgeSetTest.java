@@ -8,6 +8,7 @@ public final class EdgeSetTest {
         smallestQuarrel();
         leastBits();
         allTwelve();
+        unlikeMinutes();
         onePictureAfterTheOther();
         quarrelNone();
         doubtNothing();
@@ -116,6 +117,35 @@ public final class EdgeSetTest {
         }
         due(lacksOf(2047) + "stands xa;", 1 + 2048, 1, 2);
         due(lacksOf(2047) + "stands xk;", 1024 + 2048, 1024, 2);
+    }
+
+    /** Thirty MINUTES of MONTH 0, in each of which other ones of eleven shadows fall as told; on one they all do, if it is told. */
+    private static String unlikeSuns(int whole) {
+        StringBuilder town = new StringBuilder("post p 0 0 10;tree t leaf 0 bare 30;");
+        int cell = 1;
+        for (int minute = 0; minute < 30; minute++) {
+            int here = minute == whole ? 0 : cell;
+            cell += minute == whole ? 0 : 1;
+            town.append("sun 0 ").append(minute).append(" east ").append(40 + here % 7 * 5).append(" north ").append(40 + here / 7 * 5).append(';');
+        }
+        return town.toString();
+    }
+
+    private static void unlikeMinutes() {
+        desk.says("Terms, 2: QUARREL, DOUBT: the smallest set of SIGNS that no MOMENT has all LET (were each MINUTE of thirty unlike the others)");
+        StringBuilder picture = new StringBuilder();
+        for (int i = 0; i < 11; i++) {
+            picture.append(i < 6 ? "shadow p " + i * 5 + " 31 give 40;" : "shadow p 31 " + (i - 6) * 5 + " give 40;");
+        }
+        picture.append("leaf t;");
+        for (int whole = 0; whole < 30; whole++) {
+            desk.fresh(unlikeSuns(whole));
+            due(picture.toString(), 0, 0, 1);
+            desk.due("the one MINUTE of 300 DAYS", desk.now().all(0), 300);
+        }
+        // Without it the first shadow to the east, the first to the north and the leaf can't be together.
+        desk.fresh(unlikeSuns(30));
+        due(picture.toString(), 1 + 64 + 2048, 1, 3);
     }
 
     private static void quarrelNone() {
